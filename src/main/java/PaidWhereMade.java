@@ -445,7 +445,7 @@ public final class PaidWhereMade {
         }
 
         void addInterest(int sunday, int turn, int rate) {
-            for (int d = 0; d < count; d++) {
+            for (int d = 0; d < count && rate > 0; d++) {
                 if (isOpen(d) && turn > 0 && (sunday - made[d]) % turn == 0) {
                     coins[d] = Math.min(MOST_COINS, grown(coins[d], rate));
                 }
@@ -1114,19 +1114,19 @@ public final class PaidWhereMade {
             int fog = town.settings[FOG];
             town.wasFog = fog > 0 && town.draw(HUNDRED) < fog;
             for (int p = 0; p < town.people.count; p++) {
-                int home = town.people.home[p];
-                int spot = town.wasFog ? home : affordable(p);
-                int price = spot == home || !town.spots.has(spot) ? 0 : town.spots.price[spot];
-                town.people.coin[p] -= price;
-                town.people.stood[p] = spot;
-                town.miles += 2 * town.spots.milesBetween(home, spot);
+                town.people.stood[p] = town.people.home[p];
+                if (!town.wasFog && town.people.goal[p] != town.people.home[p]) {
+                    sendAway(p, town.people.goal[p]);
+                }
             }
         }
 
-        private int affordable(int p) {
-            int spot = town.people.goal[p];
-            boolean can = town.spots.has(spot) && town.people.coin[p] >= town.spots.price[spot];
-            return can ? spot : town.people.home[p];
+        private void sendAway(int p, int spot) {
+            if (town.spots.has(spot) && town.people.coin[p] >= town.spots.price[spot]) {
+                town.people.coin[p] -= town.spots.price[spot];
+                town.people.stood[p] = spot;
+                town.miles += 2 * town.spots.milesBetween(town.people.home[p], spot);
+            }
         }
 
         private int payAll() {
@@ -1168,13 +1168,28 @@ public final class PaidWhereMade {
 
         private int cancelAll() {
             int paid = 0;
+            int busy = spotsWithTwoDebts();
             for (int spot = 0; spot < town.spots.count; spot++) {
                 // Each round pays a debt at least.
-                for (int n = 0; n < MOST_DEBTS && findRound(spot); n++) {
+                for (int n = 0; n < MOST_DEBTS && isIn(spot, busy) && findRound(spot); n++) {
                     paid += cancelRound();
                 }
             }
             return paid;
+        }
+
+        /** A round has two debts at least: on most Sundays this spares looking for one. */
+        private int spotsWithTwoDebts() {
+            int one = 0;
+            int two = 0;
+            for (int d = 0; d < town.debts.count; d++) {
+                if (bothStandThere(d)) {
+                    int spot = 1 << town.debts.place[d];
+                    two |= one & spot;
+                    one |= spot;
+                }
+            }
+            return two;
         }
 
         /**
@@ -1221,6 +1236,9 @@ public final class PaidWhereMade {
                 int more = reached;
                 for (int p = 0; p < town.people.count; p++) {
                     more |= isIn(p, reached) ? owes[p] : 0;
+                }
+                if (more == reached) {
+                    return FAR;
                 }
                 reached = more;
             }
@@ -1435,10 +1453,12 @@ public final class PaidWhereMade {
         private static final int MOST_RIDERS = 6;
 
         private final Town town;
-        private int begin;
         private int stopCount;
         private final int[] stops = new int[MOST_STOPS];
-        /** By set of stops and the last of them: the fewest miles from the begin over all of the set to that one. */
+        /** The miles from stop to stop, and from the start to each. */
+        private final int[] legs = new int[MOST_STOPS * MOST_STOPS];
+        private final int[] firstLegs = new int[MOST_STOPS];
+        /** By set of stops and the last of them: the fewest miles from the start over all of the set to that one. */
         private final int[] fewest = new int[(1 << MOST_STOPS) * MOST_STOPS];
 
         Tours(Town town) {
@@ -1447,7 +1467,6 @@ public final class PaidWhereMade {
 
         /** Makes ready for the tours from a spot over each part of a set of spots. */
         void prepare(int from, int spots) {
-            begin = from;
             stopCount = 0;
             for (int s = 0; s < town.spots.count; s++) {
                 if (s != from && isIn(s, spots) && stopCount < MOST_STOPS) {
@@ -1455,6 +1474,7 @@ public final class PaidWhereMade {
                     stopCount++;
                 }
             }
+            noteLegs(from);
             for (int set = 1; set < 1 << stopCount; set++) {
                 for (int last = 0; last < stopCount; last++) {
                     if (isIn(last, set)) {
@@ -1464,15 +1484,23 @@ public final class PaidWhereMade {
             }
         }
 
+        private void noteLegs(int from) {
+            for (int i = 0; i < stopCount; i++) {
+                firstLegs[i] = town.spots.milesBetween(from, stops[i]);
+                for (int j = 0; j < stopCount; j++) {
+                    legs[i * MOST_STOPS + j] = town.spots.milesBetween(stops[i], stops[j]);
+                }
+            }
+        }
+
         private int fewestTo(int last, int before) {
             if (before == 0) {
-                return town.spots.milesBetween(begin, stops[last]);
+                return firstLegs[last];
             }
             int least = Integer.MAX_VALUE;
             for (int i = 0; i < stopCount; i++) {
-                if (isIn(i, before)) {
-                    int miles = fewest[before * MOST_STOPS + i] + town.spots.milesBetween(stops[i], stops[last]);
-                    least = Math.min(least, miles);
+                if ((before >> i & 1) == 1) {
+                    least = Math.min(least, fewest[before * MOST_STOPS + i] + legs[last * MOST_STOPS + i]);
                 }
             }
             return least;
@@ -1490,8 +1518,7 @@ public final class PaidWhereMade {
             int least = Integer.MAX_VALUE;
             for (int last = 0; last < stopCount; last++) {
                 if (isIn(last, set)) {
-                    int miles = fewest[set * MOST_STOPS + last] + town.spots.milesBetween(stops[last], begin);
-                    least = Math.min(least, miles);
+                    least = Math.min(least, fewest[set * MOST_STOPS + last] + firstLegs[last]);
                 }
             }
             return least;

@@ -23,7 +23,10 @@ public final class LawTest {
         Due.is("end(382)", x.end(382), false);
         Due.is("end(380)", x.end(380), true);
         Due.is("feed to 400", x.feed(0, 0, 0, 0, 0), 400);
+        Due.is("end(400)", x.end(400), true);
         Due.is("end(0)", x.end(0), true);
+        Due.is("end(0) again", x.end(0), true);
+        Due.is("end(1)", x.end(1), false);
         Due.is("text() of nothing", x.text(), 0);
         // "bar;" and blanks: the highest byte first
         Due.is("feed", x.feed(0x6261723b, 0x20202020, 0x0a0a0a0a, 0x20202020, 0x20202020), 20);
@@ -93,6 +96,9 @@ public final class LawTest {
         fault(sixteen + " ;", 1, 65);
         Due.is("two lines", Feeding.law(x, "pay when 1<2or 2<3and 4>3;\nbar;"), 2);
         Due.is("400 bytes", Feeding.law(x, " ".repeat(396) + "pay;"), 1);
+        Due.is("as many tokens as can be", Feeding.law(x, "pay when1" + "+1".repeat(194) + "=1;"), 1);
+        fault(";".repeat(400), 1, 0);
+        fault("pay when 1" + "+1".repeat(195), 1, 400);
     }
 
     private static void depths() {
@@ -161,7 +167,9 @@ public final class LawTest {
         holds("((1=1 or 1=1) and 1=2)", false);
         holds("(1=1 or 1=2 or 1=2)", true);
         holds("(1=1 and 1=1 or 1=2 and 1=2)", true);
+        holds("(" + "1=2 or 1=1 and (".repeat(6) + "1=2 or 1=1 and 9=1+2*4" + ")".repeat(7), true);
         holds("2+3*4=14", true);
+        holds("1" + "+1".repeat(150) + "=151", true);
         holds("2*3+4=10", true);
         holds("10-4-3=3", true);
         holds("10-4+3=9", true);
