@@ -7,6 +7,7 @@ public final class SundayTest {
         interest();
         rounds();
         roundsInOrder();
+        roundOfAll();
         passing();
         lawOnSunday();
         Due.finish();
@@ -181,6 +182,28 @@ public final class SundayTest {
         Due.is("owed(7, 2)", x.owed(7, 2), 0);
         Due.is("owed(0, 6)", x.owed(0, 6), 2);
         Due.is("owed(5, 2)", x.owed(5, 2), 9);
+    }
+
+    private static void roundOfAll() {
+        PaidWhereMade x = town(2, 10, 0);
+        x.set(2, 1);
+        for (int p = 0; p < 10; p++) {
+            x.debt(p, (p + 3) % 10, 7 + p, 0);
+        }
+        x.goal(9, 1);
+        Due.is("nine of ten", x.sunday(), 0);
+        Due.is("all ten", x.sunday(), 1);
+        for (int d = 0; d < 10; d++) {
+            Due.is("owed(" + d + ", 2)", x.owed(d, 2), d);
+        }
+        PaidWhereMade y = town(1, 10, 0);
+        y.set(2, 1);
+        for (int i = 0; i < 15; i++) {
+            y.debt(0, 1, i + 1, 0);
+            y.debt(1, 0, i + 1, 0);
+        }
+        Due.is("all thirty", y.sunday(), 30);
+        Due.is("owed(29, 6)", y.owed(29, 6), 2);
     }
 
     private static void passing() {
