@@ -13,6 +13,8 @@ public final class PaidWhereMade {
     private static final int MOST_PASSING = 400;
     private static final int HOURS = 8;
     private static final int HUNDRED = 100;
+    /** More than any sum of miles or coins that is compared with it. */
+    private static final int BEYOND_ALL = 1 << 30;
     /** Answers that are rows are asked for by this number and up. */
     private static final int ROW = 10;
     private static final int SETTINGS_LOOK = 20;
@@ -1272,7 +1274,7 @@ public final class PaidWhereMade {
         }
 
         private int cancelRound() {
-            int least = Integer.MAX_VALUE;
+            int least = BEYOND_ALL;
             for (int i = 0; i < roundSize; i++) {
                 least = Math.min(least, town.debts.coins[round[i]]);
             }
@@ -1414,7 +1416,7 @@ public final class PaidWhereMade {
         }
 
         private int leastBehind(int paid) {
-            int fewest = Integer.MAX_VALUE;
+            int fewest = BEYOND_ALL;
             for (int i = 0; i < openCount; i++) {
                 if (!isIn(i, paid)) {
                     fewest = Math.min(fewest, costWithNext(paid, i));
@@ -1497,7 +1499,7 @@ public final class PaidWhereMade {
             if (before == 0) {
                 return firstLegs[last];
             }
-            int least = Integer.MAX_VALUE;
+            int least = BEYOND_ALL;
             for (int i = 0; i < stopCount; i++) {
                 if ((before >> i & 1) == 1) {
                     least = Math.min(least, fewest[before * MOST_STOPS + i] + legs[last * MOST_STOPS + i]);
@@ -1515,7 +1517,7 @@ public final class PaidWhereMade {
             if (set == 0) {
                 return 0;
             }
-            int least = Integer.MAX_VALUE;
+            int least = BEYOND_ALL;
             for (int last = 0; last < stopCount; last++) {
                 if (isIn(last, set)) {
                     least = Math.min(least, fewest[set * MOST_STOPS + last] + firstLegs[last]);

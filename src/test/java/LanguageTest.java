@@ -10,7 +10,7 @@ public final class LanguageTest {
         "\\bprotected\\b", "Exact\\b", "\\bMath\\.random\\b", "\\bSystem\\.(?!arraycopy\\b)", "\\bThread\\b",
         "\\bObject\\b", "\\bhashCode\\b", "\\bvar\\b", "\\bstatic\\s*\\{", "\\bimport (?!java\\.util\\.Arrays;)",
         "\\[\\]\\[\\]\\[\\]", "\" *\\+", "\\+ *\"", "\\bArrays\\.(?!fill\\b|copyOf\\b|copyOfRange\\b)",
-        "\\bInteger\\.(?!bitCount\\b|MAX_VALUE\\b)", "\\bMath\\.(?!min\\b|max\\b|abs\\b)"
+        "\\bInteger\\.(?!bitCount\\b)", "\\bMath\\.(?!min\\b|max\\b|abs\\b)"
     };
 
     public static void main(String[] args) throws Exception {
