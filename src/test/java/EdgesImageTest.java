@@ -19,6 +19,7 @@ public final class EdgesImageTest {
         whatComesAgainIsNew();
         lawIsKept();
         goalsAreKept();
+        fogIsKept();
         lookAtFirst();
         lookAtTheMost();
         lookAnotherWhat();
@@ -262,6 +263,26 @@ public final class EdgesImageTest {
         x.image(false);
         Due.is("look(5)", x.look(5), 0);
         Due.is("of(0, 3)", x.of(0, 3), 2);
+    }
+
+    private static void fogIsKept() {
+        PaidWhereMade x = new PaidWhereMade();
+        x.image(true);
+        x.set(0, 100);
+        x.sunday();
+        Due.is("fog", x.look(9), 1);
+        x.image(false);
+        Due.is("none yet", x.look(9), 0);
+        Due.is("FOG 0 again", x.look(20), 0);
+        x.set(0, 100);
+        x.sunday();
+        x.image(true);
+        x.set(0, 0);
+        x.sunday();
+        Due.is("none", x.look(9), 0);
+        x.image(false);
+        Due.is("fog again", x.look(9), 1);
+        Due.is("FOG 100 again", x.look(20), 100);
     }
 
     private static void lookAtFirst() {

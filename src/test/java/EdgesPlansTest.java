@@ -13,6 +13,7 @@ public final class EdgesPlansTest {
         clearedGreatestFirst();
         clearedFewestFirst();
         clearedCountsOpenOnes();
+        plansApart();
         firstOfNothing();
         firstOfEight();
         firstOfNine();
@@ -165,6 +166,37 @@ public final class EdgesPlansTest {
         sets(x, 4, 2, 1);
         Due.is("the middle one is paid", x.sunday(), 1);
         sets(x, 2, 1);
+    }
+
+    /** What one question works out is not seen by the next. */
+    private static void plansApart() {
+        PaidWhereMade x = Towns.plain(3, 3, 0);
+        x.set(1, 50);
+        x.debt(0, 1, 10, 0);
+        x.debt(0, 2, 30, 1);
+        for (int again = 0; again < 2; again++) {
+            order(x, 0, 45, 1, 0);
+            sets(x, 2, 1);
+            order(x, 0, 45, 1, 0);
+            order(x, 1, 0);
+            Due.is("tour", x.tour(0, 7), 27);
+            Due.is("share", x.share(1, 7, 2, 0), 6);
+            Due.is("tour", x.tour(2, 1), 18);
+        }
+        PaidWhereMade y = Towns.plain(1, 2, 50);
+        y.debt(0, 1, 10, 0);
+        order(y, 0, 10, 0);
+        y.sunday();
+        sets(y);
+        PaidWhereMade z = Towns.plain(2, 2, 0);
+        z.person(0, 5, 0);
+        z.person(0, 0, 0);
+        z.debt(2, 0, 5, 0);
+        z.debt(0, 1, 9, 1);
+        z.debt(2, 3, 9, 1);
+        sets(z, 6, 1);
+        Due.is("the first one is paid", z.sunday(), 1);
+        sets(z, 3);
     }
 
     private static void order(PaidWhereMade x, int p, long coins, int... want) {

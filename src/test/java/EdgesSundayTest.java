@@ -362,6 +362,15 @@ public final class EdgesSundayTest {
         // 0 4 comes ahead of 1 2 and of 0 3 2
         Due.is("0 4 and 1 2", z.sunday(), 4);
         due(z, "0 4 and 1 2", 6, 2, 2, 2, 0, 2);
+        PaidWhereMade v = Towns.plain(1, 4, 0);
+        v.set(2, 1);
+        v.debt(1, 2, 5, 0);
+        v.debt(2, 0, 5, 0);
+        v.debt(0, 1, 5, 0);
+        v.debt(2, 3, 5, 0);
+        v.debt(3, 1, 5, 0);
+        Due.is("0 1 2 ahead of 0 3 4", v.sunday(), 3);
+        due(v, "0 1 2 ahead of 0 3 4", 2, 0, 0, 0, 5, 5);
     }
 
     /** "as long as there is a ROUND there". */

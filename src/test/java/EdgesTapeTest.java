@@ -28,6 +28,7 @@ public final class EdgesTapeTest {
         intsWrap();
         partGoesTowards0();
         firstLineThatIsSo();
+        andBindsMoreThanOr();
         factsAtTheirEdges();
         Due.finish();
     }
@@ -190,6 +191,8 @@ public final class EdgesTapeTest {
         fault("pay Z;", 1, 4);
         fault("PAY;", 1, 0);
         fault("payZ;", 1, 0);
+        fault("payz;", 1, 0);
+        fault("paya;", 1, 0);
         fault("payA;", 1, 0);
         // what stands next to the letters is no letter
         fault("pay`;", 1, 3);
@@ -246,7 +249,18 @@ public final class EdgesTapeTest {
 
     /** "1 what can't stand there". */
     private static void cannotStand() {
-        fault(";", 1, 0);
+        for (String word : "; + - * / ( ) < = > 1 when or and not coins creditor".split(" ")) {
+            fault(word, 1, 0);
+            fault("pay;" + word, 1, 4);
+            fault("pay when 1=1 pay;" + word, 1, 13);
+        }
+        for (String word : "; + - * / ) < = > pay bar when or and".split(" ")) {
+            fault("pay when " + word, 1, 9);
+            fault("pay when not " + word, 1, 13);
+            fault("pay when 1=1 or " + word, 1, 16);
+            fault("pay when 1=" + word, 1, 11);
+            fault("pay when 1/" + word, 1, 11);
+        }
         fault("when 1=1;", 1, 0);
         fault("pay bar;", 1, 4);
         fault("pay;;", 1, 4);
@@ -429,12 +443,41 @@ public final class EdgesTapeTest {
         }
     }
 
+    /** "B = A {or A}.  A = C {and C}.  C = .. | not C": a not takes the next C alone. */
+    private static void andBindsMoreThanOr() {
+        String[] so = {"1=2", "1=1"};
+        for (int bits = 0; bits < 8; bits++) {
+            boolean a = (bits & 1) != 0;
+            boolean b = (bits & 2) != 0;
+            boolean c = (bits & 4) != 0;
+            String x = so[bits & 1];
+            String y = so[bits >> 1 & 1];
+            String z = so[bits >> 2];
+            lets(x + " or " + y + " and " + z, a || b && c);
+            lets(x + " and " + y + " or " + z, a && b || c);
+            lets("(" + x + " or " + y + ")and " + z, (a || b) && c);
+            lets(x + " and(" + y + " or " + z + ")", a && (b || c));
+            lets("not " + x + " and " + y + " or not " + z, !a && b || !c);
+            lets("not(" + x + " and " + y + ")or not not " + z, !(a && b) || c);
+            lets(x + " or " + y + " or " + z, a || b || c);
+            lets(x + " and not " + y + " and " + z, a && !b && c);
+        }
+        lets("1<2 and 1=1 and 2>1", true);
+        lets("not 1>2 and 1<2 and not 2<1", true);
+        lets("1>2 or 1<1 or 2=1", false);
+    }
+
     private static void factsAtTheirEdges() {
         lets("coins=77 and age=2 and purse=1000 and spot=2 and years=40", true);
         lets("here=3 and debtor=1 and creditor=0 and sunday=5", true);
         lets("coins<77 or coins>77 or age<2 or age>2 or purse<1000 or purse>1000", false);
         lets("spot<2 or spot>2 or years<40 or years>40 or here<3 or here>3", false);
         lets("debtor<1 or debtor>1 or creditor<0 or creditor>0 or sunday<5 or sunday>5", false);
+        PaidWhereMade full = Towns.full();
+        full.end(0);
+        Feeding.law(full, "pay when debtor=8 and creditor=9 and coins=29 and spot=0 and years=8 and purse=800;bar;");
+        Due.is("the greatest numbers", full.owed(28, 7), 1);
+        Due.is("another debt", full.owed(18, 7), 0);
         PaidWhereMade x = Towns.plain(1, 2, 99);
         x.debt(0, 1, 5, 0);
         Feeding.law(x, "pay when here=0 and age=0 and sunday=0;bar;");

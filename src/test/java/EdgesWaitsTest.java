@@ -243,6 +243,13 @@ public final class EdgesWaitsTest {
         row(x, 3, 640000, WALKING, 1, 1);
         x.chance(0, 2, 20);
         row(x, 3, 640000, WALKING, 0, 0);
+        PaidWhereMade y = Towns.plain(3, 0, 0);
+        y.way(0, 1, 20);
+        y.way(1, 2, 99);
+        y.chance(1, 2, 90);
+        y.chance(2, 1, 50);
+        // the least chance comes ahead of the least spots
+        row(y, 0, 100000, WALKING, WALKING, 1);
     }
 
     private static void allOfTenSpots() {
@@ -253,6 +260,11 @@ public final class EdgesWaitsTest {
         row(x, 9, 625000000000000L, WALKING, 8, WALKING, 6, WALKING, 4, WALKING, 2);
         row(x, 0, 625000000000000L, WALKING, 8, WALKING, 6, WALKING, 4, WALKING, 2);
         row(x, 8, 625000000000000L, 8, 8, WALKING, 6, WALKING, 4, WALKING, 2);
+        // fewer hours behind more: nothing is left of those
+        row(x, 8, 125000000000L, 8, 8, WALKING, 6, WALKING, 4);
+        row(x, 8, 2500000000L, 8, 8, WALKING, 6, 6);
+        row(x, 8, 500000, 8, 8, 8);
+        row(x, 9, 100, 9);
     }
 
     /** Behind a chance of 100 all ways have 0, and the least of them stays where one is. */
